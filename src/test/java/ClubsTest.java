@@ -95,6 +95,7 @@ public final class ClubsTest {
         }
         Due.is("path 0", x.whose(0, 4, 10, 0), 7);
         Due.is("path 1", x.whose(1, 4, 10, 0), 3);
+        Due.is("path 2, the last one", x.whose(2, 4, 10, 0), 3);
         for (int club = 0; club < 4; club++) {
             x.colour(club, 1, 20);
         }

@@ -9,6 +9,7 @@ public final class HoundsTest {
         likeBranches();
         firstOfBestSplits();
         allForks();
+        askedBefore();
         Due.end();
     }
 
@@ -95,6 +96,24 @@ public final class HoundsTest {
         Due.is("found behind the other", x.split(3, 2, 1), 3);
         TwigsAndStones y = fork(2);
         Due.is("one branch, three hounds", y.split(3, 0, 0), 0);
+    }
+
+    /** Each answer stands for itself, whatever was asked before. */
+    private static void askedBefore() {
+        TwigsAndStones x = fork(5, 3, 3, 10, 1);
+        for (int times = 0; times < 2; times++) {
+            dueBest(x, new int[] {5, 3, 3, 10, 1}, 5, 3);
+            dueBest(x, new int[] {5, 3, 3, 10, 1}, 5, 1);
+            dueBest(x, new int[] {5, 3, 3, 10, 1}, 5, 2);
+        }
+        x.unbranch();
+        x.branch(4);
+        x.branch(4);
+        dueBest(x, new int[] {4, 4}, 2, 1);
+        dueBest(x, new int[] {4, 4}, 2, 3);
+        TwigsAndStones y = fork(20, 20, 20, 20, 20);
+        dueBest(y, new int[] {20, 20, 20, 20, 20}, 5, 3);
+        dueBest(y, new int[] {20, 20, 20, 20, 20}, 5, 2);
     }
 
     /** Every fork of up to four short branches, against all splits looked at one by one. */

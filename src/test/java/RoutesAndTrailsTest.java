@@ -11,6 +11,7 @@ public final class RoutesAndTrailsTest {
         harmless();
         trails();
         faults();
+        comingBack();
         longTrails();
         crossings();
         Due.end();
@@ -103,6 +104,21 @@ public final class RoutesAndTrailsTest {
         y.sign(1, 0, 1, 9, 3, false);
         y.sign(1, 2, 0, 9, 1, false);
         Due.is("who stays at a camp does not go right", y.needed(0), 6);
+        TwigsAndStones w = comb();
+        w.route(1);
+        w.route(5);
+        w.sign(1, 1, 1, 9, 0, true);
+        Due.is("path 0 is wrong", w.needed(0), 2);
+        w.set(1, 2);
+        w.sign(1, 1, 0, 9, 0, true);
+        Due.is("path 0 and path 1 are barred", w.needed(0), 0);
+        TwigsAndStones v = new TwigsAndStones();
+        v.path(0, 1, 4);
+        v.path(0, 2, 1);
+        v.route(0);
+        v.route(2);
+        v.set(1, 3);
+        Due.is("path 0 is the only wrong one", v.needed(0), 1);
         TwigsAndStones z = routed();
         z.sign(1, 0, 1, 9, 1, false);
         z.turn(0, 4);
@@ -221,6 +237,17 @@ public final class RoutesAndTrailsTest {
         Due.is("unroute", x.unroute(), 5);
         Due.is("now begun off the route", x.breaks(0), 1);
         Due.is("now not to it", x.breaks(1), 9);
+    }
+
+    private static void comingBack() {
+        TwigsAndStones x = routed();
+        x.trail(1, true);
+        x.add(0, 2);
+        Due.is("along the route", x.breaks(0), 2);
+        x.trail(0, true);
+        Due.is("the beginning of the route is of it", x.breaks(1), 0);
+        x.trail(4, true);
+        Due.is("its end too", x.breaks(2), 0);
     }
 
     private static void longTrails() {
