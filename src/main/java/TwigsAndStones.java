@@ -50,7 +50,7 @@ public final class TwigsAndStones {
         if (net.joining(a, b) != NONE) {
             return NOT;
         }
-        return net.size() >= MOST_PATHS ? FULL : net.join(a, b, length);
+        return net.pathCount() >= MOST_PATHS ? FULL : net.join(a, b, length);
     }
 
     public int weather(int v) {
@@ -71,11 +71,11 @@ public final class TwigsAndStones {
         if (!isSignValue(kind, v) || !isWithin(life, 1, 60) || (seen & ~net.pathsAt(place)) != 0) {
             return OUTSIDE;
         }
-        return signs.size() >= Signs.MOST ? FULL : signs.lay(place, kind, v, life, seen, start);
+        return signs.signCount() >= Signs.MOST ? FULL : signs.lay(place, kind, v, life, seen, start);
     }
 
     public int turn(int sign, int path) {
-        if (!isWithin(sign, 0, signs.size() - 1) || !net.touches(path, signs.placeOf(sign))) {
+        if (!isWithin(sign, 0, signs.signCount() - 1) || !net.touches(path, signs.placeOf(sign))) {
             return UNKNOWN;
         }
         if (signs.kindOf(sign) != THIS_WAY || signs.isGone(sign) || signs.valueOf(sign) == path) {
@@ -85,7 +85,7 @@ public final class TwigsAndStones {
     }
 
     public int at(int sign, int what) {
-        if (!isWithin(sign, 0, signs.size() - 1)) {
+        if (!isWithin(sign, 0, signs.signCount() - 1)) {
             return UNKNOWN;
         }
         return isWithin(what, 0, 5) ? signs.tell(sign, what) : OUTSIDE;
@@ -139,7 +139,7 @@ public final class TwigsAndStones {
         if (!isWithin(kinds, Notes.NOT_KNOWN, 15)) {
             return OUTSIDE;
         }
-        return notes.size() >= Notes.MOST ? FULL : notes.takeDown(kinds);
+        return notes.noteCount() >= Notes.MOST ? FULL : notes.takeDown(kinds);
     }
 
     public int forget() {
@@ -169,7 +169,7 @@ public final class TwigsAndStones {
         if (!theRoute.mayGoOnTo(place)) {
             return NOT;
         }
-        return theRoute.size() >= Route.MOST ? FULL : theRoute.goOnTo(place);
+        return theRoute.placeCount() >= Route.MOST ? FULL : theRoute.goOnTo(place);
     }
 
     public int unroute() {
@@ -184,11 +184,11 @@ public final class TwigsAndStones {
         if (!isPlace(place)) {
             return UNKNOWN;
         }
-        return trails.size() >= Trails.MOST ? FULL : trails.begin(place, isFalse);
+        return trails.trailCount() >= Trails.MOST ? FULL : trails.begin(place, isFalse);
     }
 
     public int add(int trail, int place) {
-        if (!isWithin(trail, 0, trails.size() - 1) || !isPlace(place)) {
+        if (!isWithin(trail, 0, trails.trailCount() - 1) || !isPlace(place)) {
             return UNKNOWN;
         }
         if (!trails.mayGoOnTo(trail, place)) {
@@ -198,7 +198,7 @@ public final class TwigsAndStones {
     }
 
     public int breaks(int trail) {
-        return isWithin(trail, 0, trails.size() - 1) ? trails.faultsOf(trail) : UNKNOWN;
+        return isWithin(trail, 0, trails.trailCount() - 1) ? trails.faultsOf(trail) : UNKNOWN;
     }
 
     // ---- hounds
@@ -207,7 +207,7 @@ public final class TwigsAndStones {
         if (!isWithin(length, 1, 20)) {
             return OUTSIDE;
         }
-        return fork.size() >= Fork.MOST ? FULL : fork.grow(length);
+        return fork.branchCount() >= Fork.MOST ? FULL : fork.grow(length);
     }
 
     public int unbranch() {
@@ -219,7 +219,7 @@ public final class TwigsAndStones {
     }
 
     public int split(int hounds, int branch, int what) {
-        if (!isWithin(branch, 0, fork.size() - 1)) {
+        if (!isWithin(branch, 0, fork.branchCount() - 1)) {
             return UNKNOWN;
         }
         if (!isWithin(hounds, 1, Fork.MOST_HOUNDS) || !isWithin(what, 0, 1)) {
@@ -249,7 +249,7 @@ public final class TwigsAndStones {
     }
 
     public int whose(int path, int colour, int day, int way) {
-        if (!isWithin(path, 0, net.size() - 1)) {
+        if (!isWithin(path, 0, net.pathCount() - 1)) {
             return UNKNOWN;
         }
         if (!isColour(colour) || !isWithin(day, 0, LAST_DAY) || !isWithin(way, 0, 1)) {
@@ -260,14 +260,14 @@ public final class TwigsAndStones {
 
     public int count(int what) {
         switch (what) {
-            case 0: return net.size();
-            case 1: return signs.size();
+            case 0: return net.pathCount();
+            case 1: return signs.signCount();
             case 2: return signs.countLeft();
             case 3: return signs.today();
-            case 4: return notes.size();
-            case 5: return theRoute.size();
-            case 6: return trails.size();
-            case 7: return fork.size();
+            case 4: return notes.noteCount();
+            case 5: return theRoute.placeCount();
+            case 6: return trails.trailCount();
+            case 7: return fork.branchCount();
             default: return OUTSIDE;
         }
     }
@@ -375,12 +375,12 @@ public final class TwigsAndStones {
         private final Row lengths = new Row(MOST_PATHS);
         private final Row pathsByPlace = new Row(PLACES).filled();
 
-        int size() {
+        int pathCount() {
             return lengths.size();
         }
 
         int join(int a, int b, int length) {
-            int path = size();
+            int path = pathCount();
             firsts.push(a);
             seconds.push(b);
             lengths.push(length);
@@ -396,7 +396,7 @@ public final class TwigsAndStones {
 
         /** The bits of all paths that there are. */
         int allPaths() {
-            return (1 << size()) - 1;
+            return (1 << pathCount()) - 1;
         }
 
         boolean touches(int path, int place) {
@@ -449,7 +449,7 @@ public final class TwigsAndStones {
             this.net = net;
         }
 
-        int size() {
+        int signCount() {
             return places.size();
         }
 
@@ -470,7 +470,7 @@ public final class TwigsAndStones {
         }
 
         int letDaysGoBy(int n) {
-            for (int s = 0; s < size(); s++) {
+            for (int s = 0; s < signCount(); s++) {
                 int lost = kindOf(s) == STONES ? n : n * (1 << weatherNow);
                 lives.put(s, Math.max(0, lives.get(s) - lost));
             }
@@ -479,7 +479,7 @@ public final class TwigsAndStones {
         }
 
         int lay(int place, int kind, int v, int life, int seenByPaths, boolean start) {
-            int sign = size();
+            int sign = signCount();
             places.push(place);
             kinds.push(kind);
             values.push(v);
@@ -526,7 +526,7 @@ public final class TwigsAndStones {
 
         int countLeft() {
             int left = 0;
-            for (int s = 0; s < size(); s++) {
+            for (int s = 0; s < signCount(); s++) {
                 left += isGone(s) ? 0 : 1;
             }
             return left;
@@ -547,7 +547,7 @@ public final class TwigsAndStones {
         /** The signs that are seen, by bits. */
         int allSeen(int place, int came) {
             int bits = 0;
-            for (int s = 0; s < size(); s++) {
+            for (int s = 0; s < signCount(); s++) {
                 bits |= isSeen(s, place, came) ? 1 << s : 0;
             }
             return bits;
@@ -556,7 +556,7 @@ public final class TwigsAndStones {
         /** The kinds of the signs that are seen, by bits. */
         int kindsSeen(int place, int came) {
             int bits = 0;
-            for (int s = 0; s < size(); s++) {
+            for (int s = 0; s < signCount(); s++) {
                 bits |= isSeen(s, place, came) ? 1 << kindOf(s) : 0;
             }
             return bits;
@@ -588,7 +588,7 @@ public final class TwigsAndStones {
         int choice(int place, int came) {
             int pointed = NONE;
             int barred = 0;
-            for (int s = 0; s < signs.size(); s++) {
+            for (int s = 0; s < signs.signCount(); s++) {
                 if (!signs.isSeen(s, place, came)) {
                     continue;
                 }
@@ -673,7 +673,7 @@ public final class TwigsAndStones {
             this.signs = signs;
         }
 
-        int size() {
+        int noteCount() {
             return noted.size();
         }
 
@@ -686,11 +686,11 @@ public final class TwigsAndStones {
         }
 
         int waysFrom(int place) {
-            if (size() == 0) {
+            if (noteCount() == 0) {
                 return 1;
             }
-            for (int step = size() - 1; step >= 1; step--) {
-                for (int arc = 0; arc < 2 * net.size(); arc++) {
+            for (int step = noteCount() - 1; step >= 1; step--) {
+                for (int arc = 0; arc < 2 * net.pathCount(); arc++) {
                     waysByArc.put(step * Net.ARCS + arc, waysOn(step, net.endOf(arc), arc >> 1));
                 }
             }
@@ -703,12 +703,12 @@ public final class TwigsAndStones {
             if (kinds != NOT_KNOWN && kinds != signs.kindsSeen(place, came)) {
                 return 0;
             }
-            if (step == size() - 1) {
+            if (step == noteCount() - 1) {
                 return 1;
             }
             int exits = exitsFrom(place, came);
             int sum = 0;
-            for (int path = 0; path < net.size(); path++) {
+            for (int path = 0; path < net.pathCount(); path++) {
                 if ((exits & bitOf(path)) != 0) {
                     sum += waysBehind(step + 1, place, path);
                 }
@@ -727,7 +727,7 @@ public final class TwigsAndStones {
 
         /** The i-th place of the only way, or NONE; the ways from there must just have been counted, and be one. */
         int placeOnTheWay(int place, int i) {
-            if (i < 0 || i >= size()) {
+            if (i < 0 || i >= noteCount()) {
                 return NONE;
             }
             int here = place;
@@ -744,7 +744,7 @@ public final class TwigsAndStones {
 
         private int pathOn(int step, int place, int came) {
             int exits = exitsFrom(place, came);
-            for (int path = 0; path < net.size(); path++) {
+            for (int path = 0; path < net.pathCount(); path++) {
                 if ((exits & bitOf(path)) != 0 && waysBehind(step, place, path) > 0) {
                     return path;
                 }
@@ -767,11 +767,11 @@ public final class TwigsAndStones {
             this.walker = walker;
         }
 
-        int size() {
+        int placeCount() {
             return places.size();
         }
 
-        boolean has(int place) {
+        boolean passes(int place) {
             return places.has(place);
         }
 
@@ -782,7 +782,7 @@ public final class TwigsAndStones {
         }
 
         boolean mayGoOnTo(int place) {
-            return size() == 0 || (!has(place) && net.joining(places.get(size() - 1), place) != NONE);
+            return placeCount() == 0 || (!passes(place) && net.joining(places.get(placeCount() - 1), place) != NONE);
         }
 
         int goOnTo(int place) {
@@ -797,7 +797,7 @@ public final class TwigsAndStones {
         int marksNeeded(int way) {
             int ahead = way == 0 ? 1 : -1;
             int bits = 0;
-            for (int i = 0; i < size(); i++) {
+            for (int i = 0; i < placeCount(); i++) {
                 int here = places.get(i);
                 // Beside the route's ends stands NONE, which no path joins.
                 int right = net.joining(here, places.get(i + ahead));
@@ -811,7 +811,7 @@ public final class TwigsAndStones {
 
         private boolean mayGoBadlyWrong(int here, int came, int right) {
             int wrong = net.pathsAt(here) & ~bitOf(came) & ~bitOf(right);
-            for (int path = 0; path < net.size(); path++) {
+            for (int path = 0; path < net.pathCount(); path++) {
                 if ((wrong & bitOf(path)) != 0 && !isHarmless(here, path)) {
                     return true;
                 }
@@ -843,7 +843,7 @@ public final class TwigsAndStones {
             this.ofGame = ofGame;
         }
 
-        int size() {
+        int trailCount() {
             return sizes.size();
         }
 
@@ -858,7 +858,7 @@ public final class TwigsAndStones {
         }
 
         int begin(int place, boolean isFalse) {
-            int trail = size();
+            int trail = trailCount();
             sizes.push(0);
             falseOnes.push(isFalse ? 1 : 0);
             goOnTo(trail, place);
@@ -896,10 +896,10 @@ public final class TwigsAndStones {
             if (!isFalse(trail)) {
                 return 0;
             }
-            int faults = ofGame.has(placeAt(trail, 0)) ? 0 : 1;
+            int faults = ofGame.passes(placeAt(trail, 0)) ? 0 : 1;
             faults |= comesBackToRoute(trail) ? 2 : 0;
-            faults |= lengthOf(trail) > reach ? 4 : 0;
-            for (int other = 0; other < size(); other++) {
+            faults |= wholeLength(trail) > reach ? 4 : 0;
+            for (int other = 0; other < trailCount(); other++) {
                 faults |= other != trail && isFalse(other) && crosses(trail, other) ? 8 : 0;
             }
             return faults;
@@ -911,14 +911,14 @@ public final class TwigsAndStones {
 
         private boolean comesBackToRoute(int trail) {
             for (int i = 1; i < sizeOf(trail); i++) {
-                if (ofGame.has(placeAt(trail, i))) {
+                if (ofGame.passes(placeAt(trail, i))) {
                     return true;
                 }
             }
             return false;
         }
 
-        private int lengthOf(int trail) {
+        private int wholeLength(int trail) {
             int sum = 0;
             for (int i = 1; i < sizeOf(trail); i++) {
                 sum += net.lengthOf(net.joining(placeAt(trail, i - 1), placeAt(trail, i)));
@@ -950,7 +950,7 @@ public final class TwigsAndStones {
         private final Row tried = new Row(MOST).filled();
         private final Row best = new Row(MOST).filled();
 
-        int size() {
+        int branchCount() {
             return lengths.size();
         }
 
@@ -968,7 +968,7 @@ public final class TwigsAndStones {
 
         /** Looks for the best split and keeps it: its worst time. */
         int findBestSplit(int hounds) {
-            for (int b = 0; b < size(); b++) {
+            for (int b = 0; b < branchCount(); b++) {
                 tried.put(b, 0);
             }
             int least = worstTime(hounds);
@@ -984,14 +984,14 @@ public final class TwigsAndStones {
         }
 
         private void keepTried() {
-            for (int b = 0; b < size(); b++) {
+            for (int b = 0; b < branchCount(); b++) {
                 best.put(b, tried.get(b));
             }
         }
 
         /** The next split by the hound of branch 0, then 1, and so on; false behind the last one. */
         private boolean takeNextSplit(int hounds) {
-            for (int b = size() - 1; b >= 0; b--) {
+            for (int b = branchCount() - 1; b >= 0; b--) {
                 int next = tried.get(b) + 1;
                 if (next < hounds) {
                     tried.put(b, next);
@@ -1007,7 +1007,7 @@ public final class TwigsAndStones {
             for (int hound = 0; hound < hounds; hound++) {
                 int sum = 0;
                 int longest = 0;
-                for (int b = 0; b < size(); b++) {
+                for (int b = 0; b < branchCount(); b++) {
                     int length = tried.get(b) == hound ? lengths.get(b) : 0;
                     sum += length;
                     longest = Math.max(longest, length);
@@ -1021,7 +1021,7 @@ public final class TwigsAndStones {
         /** When the true marks are found in the best split, if they are along a branch. */
         int timeOf(int branch) {
             int time = lengths.get(branch);
-            for (int b = 0; b < size(); b++) {
+            for (int b = 0; b < branchCount(); b++) {
                 if (houndOf(b) == houndOf(branch) && comesBefore(b, branch)) {
                     time += 2 * lengths.get(b);
                 }
