@@ -21,16 +21,6 @@ public final class PathsAndSignsTest {
         Due.end();
     }
 
-    /** Place 0 joined to 1, 2, 3 by the paths 0 (2 long), 1 (5 long), 2 (9 long); 1 to 2 by path 3 (1 long). */
-    private static TwigsAndStones star() {
-        TwigsAndStones x = new TwigsAndStones();
-        x.path(0, 1, 2);
-        x.path(0, 2, 5);
-        x.path(3, 0, 9);
-        x.path(1, 2, 1);
-        return x;
-    }
-
     private static void newObject() {
         TwigsAndStones x = new TwigsAndStones();
         for (int what = 0; what <= 7; what++) {
@@ -93,7 +83,7 @@ public final class PathsAndSignsTest {
     private static void daysGoBy() {
         int[] losses = {1, 2, 4};
         for (int weather = 0; weather <= 2; weather++) {
-            TwigsAndStones x = star();
+            TwigsAndStones x = Lands.star();
             x.sign(0, 0, 0, 60, 0, true);
             x.sign(0, 1, 1, 60, 0, true);
             x.sign(0, 2, 7, 60, 0, true);
@@ -109,7 +99,7 @@ public final class PathsAndSignsTest {
             Due.is("those not gone", x.count(2), weather == 2 ? 4 : 5);
             Due.is("gone ones are signs", x.count(1), 5);
         }
-        TwigsAndStones y = star();
+        TwigsAndStones y = Lands.star();
         y.sign(0, 2, 7, 30, 0, true);
         y.sign(0, 3, 1, 31, 0, true);
         Due.is("days(30)", y.days(30), 30);
@@ -119,7 +109,7 @@ public final class PathsAndSignsTest {
     }
 
     private static void dayLimit() {
-        TwigsAndStones x = star();
+        TwigsAndStones x = Lands.star();
         x.sign(0, 2, 7, 60, 0, true);
         Due.is("days(0)", x.days(0), OUTSIDE);
         Due.is("days(-1)", x.days(-1), OUTSIDE);
@@ -141,7 +131,7 @@ public final class PathsAndSignsTest {
     }
 
     private static void signsRefused() {
-        TwigsAndStones x = star();
+        TwigsAndStones x = Lands.star();
         Due.is("sign place -1", x.sign(-1, 2, 0, 1, 0, true), UNKNOWN);
         Due.is("sign place 10", x.sign(10, 9, 0, 1, 0, true), UNKNOWN);
         Due.is("this way by a path elsewhere", x.sign(0, 0, 3, 1, 0, true), UNKNOWN);
@@ -170,7 +160,7 @@ public final class PathsAndSignsTest {
     }
 
     private static void signsLaid() {
-        TwigsAndStones x = star();
+        TwigsAndStones x = Lands.star();
         Due.is("this way", x.sign(0, 0, 2, 60, 7, true), 0);
         Due.is("not this way", x.sign(0, 1, 1, 1, 0, false), 1);
         Due.is("stones 9", x.sign(1, 2, 9, 60, 9, false), 2);
@@ -181,7 +171,7 @@ public final class PathsAndSignsTest {
     }
 
     private static void fullSigns() {
-        TwigsAndStones x = star();
+        TwigsAndStones x = Lands.star();
         for (int i = 0; i < 24; i++) {
             Due.is("sign " + i, x.sign(0, 3, i % 6, 1, 7, true), i);
         }
@@ -195,7 +185,7 @@ public final class PathsAndSignsTest {
     }
 
     private static void turns() {
-        TwigsAndStones x = star();
+        TwigsAndStones x = Lands.star();
         x.sign(0, 0, 0, 2, 7, true);
         x.sign(0, 1, 0, 60, 7, true);
         x.sign(0, 2, 0, 60, 7, true);
@@ -226,7 +216,7 @@ public final class PathsAndSignsTest {
     }
 
     private static void tellings() {
-        TwigsAndStones x = star();
+        TwigsAndStones x = Lands.star();
         x.days(7);
         x.sign(1, 3, 5, 33, 9, false);
         int[] due = {1, 3, 5, 33, 7, 0};
@@ -257,7 +247,7 @@ public final class PathsAndSignsTest {
     }
 
     private static void sights() {
-        TwigsAndStones x = star();
+        TwigsAndStones x = Lands.star();
         x.sign(0, 0, 0, 1, 0, true);
         x.sign(0, 1, 1, 9, 1, false);
         x.sign(0, 2, 1, 9, 6, false);
@@ -283,7 +273,7 @@ public final class PathsAndSignsTest {
     }
 
     private static void fog() {
-        TwigsAndStones x = star();
+        TwigsAndStones x = Lands.star();
         for (int kind = 0; kind <= 3; kind++) {
             x.sign(0, kind, 0, 60, 7, true);
         }

@@ -1,7 +1,7 @@
 /** Promises 10 to 15: walk, walked, note, forget, ways, only. */
 public final class WalksAndNotesTest {
     private static final int NONE = -1, UNKNOWN = -2, OUTSIDE = -3, FULL = -5;
-    private static final int LOSS = 0, END = 1, CAMP = 2, AROUND = 3, FAR = 4;
+    private static final int LOSS = 0, END = 1, CAMP = 2, AROUND = 3;
     private static final int MIN = Integer.MIN_VALUE, MAX = Integer.MAX_VALUE;
 
     public static void main(String[] args) {
@@ -10,7 +10,6 @@ public final class WalksAndNotesTest {
         byWhatIsNotBarred();
         camps();
         around();
-        farWalks();
         notesTaken();
         waysByNotes();
         waysBack();
@@ -151,131 +150,6 @@ public final class WalksAndNotesTest {
         z.sign(0, 0, 0, 60, 0, true);
         z.sign(0, 2, 0, 60, 4, false);
         dueWalk("coming where it began is not around", z, 0, CAMP, 0, 3, 3);
-    }
-
-    // A net of 16 paths with the places 0 .. 5 joined fourfold, four of its paths going over 6 .. 9.
-    private static final int[][] JOINED = {
-        {0, 1, -1}, {0, 2, -1}, {0, 3, -1}, {0, 4, -1}, {1, 2, -1}, {1, 3, -1},
-        {1, 5, -1}, {2, 4, -1}, {2, 5, 6}, {3, 4, 7}, {3, 5, 8}, {4, 5, 9}};
-
-    private final TwigsAndStones net = new TwigsAndStones();
-    /** By arc (2 * edge + direction): the paths by which it leaves and comes. */
-    private final int[] leaves = new int[24];
-    private final int[] comes = new int[24];
-    private final int[] from = new int[24];
-    private final int[] to = new int[24];
-    private final int[] tour = new int[25];
-    private int toured = 0;
-    private final boolean[] gone = new boolean[24];
-
-    /** Lays the net; the tour goes by every edge once each way (Hierholzer), so no path comes twice. */
-    private WalksAndNotesTest() {
-        for (int e = 0; e < JOINED.length; e++) {
-            int a = JOINED[e][0];
-            int b = JOINED[e][1];
-            int between = JOINED[e][2];
-            int first = net.path(a, between < 0 ? b : between, 1);
-            int last = between < 0 ? first : net.path(between, b, 1);
-            set(2 * e, a, b, first, last);
-            set(2 * e + 1, b, a, last, first);
-        }
-        goOn(0, -1);
-        for (int i = 0; i < toured / 2; i++) {
-            int swap = tour[i];
-            tour[i] = tour[toured - 1 - i];
-            tour[toured - 1 - i] = swap;
-        }
-    }
-
-    private void set(int arc, int a, int b, int leaving, int coming) {
-        from[arc] = a;
-        to[arc] = b;
-        leaves[arc] = leaving;
-        comes[arc] = coming;
-    }
-
-    private void goOn(int place, int by) {
-        for (int arc = 0; arc < 24; arc++) {
-            if (from[arc] == place && !gone[arc]) {
-                gone[arc] = true;
-                goOn(to[arc], arc);
-            }
-        }
-        if (by >= 0) {
-            tour[toured++] = by;
-        }
-    }
-
-    private int pathsOf(int arc) {
-        return leaves[arc] == comes[arc] ? 1 : 2;
-    }
-
-    /** How many arcs of the tour, from a shift on, make just so many paths; -1 if none do. */
-    private int arcsFor(int shift, int paths) {
-        int sum = 0;
-        for (int n = 0; n < 24; n++) {
-            if (sum == paths) {
-                return n;
-            }
-            sum += pathsOf(tour[(shift + n) % 24]);
-        }
-        return -1;
-    }
-
-    /** Lays this way signs so that the walker goes the first arcs of the tour, from the shift on. */
-    private int laySigns(int shift, int arcs) {
-        int begin = from[tour[shift]];
-        net.sign(begin, 0, leaves[tour[shift]], 60, 0, true);
-        for (int n = 1; n < arcs; n++) {
-            int arc = tour[(shift + n - 1) % 24];
-            net.sign(to[arc], 0, leaves[tour[(shift + n) % 24]], 60, 1 << comes[arc], false);
-        }
-        return begin;
-    }
-
-    private static int shiftFor(int paths) {
-        WalksAndNotesTest tried = new WalksAndNotesTest();
-        for (int shift = 0; shift < 24; shift++) {
-            if (tried.arcsFor(shift, paths) > 0) {
-                return shift;
-            }
-        }
-        return 0;
-    }
-
-    private static void farWalks() {
-        int shift = shiftFor(30);
-        WalksAndNotesTest far = new WalksAndNotesTest();
-        Due.is("the net has 16 paths", far.net.count(0), 16);
-        Due.is("the tour goes by all", far.toured, 24);
-        int arcs = far.arcsFor(shift, 30);
-        Due.is("there are signs for all", arcs > 0 && arcs < 24 ? 1 : 0, 1);
-        int begin = far.laySigns(shift, arcs + 1);
-        dueWalk("thirty paths and would go on", far.net, begin, FAR, far.to[far.tour[(shift + arcs - 1) % 24]], 30, 30);
-
-        WalksAndNotesTest loss = new WalksAndNotesTest();
-        begin = loss.laySigns(shift, arcs);
-        int last = loss.tour[(shift + arcs - 1) % 24];
-        dueWalk("thirty paths and at a loss", loss.net, begin, LOSS, loss.to[last], 30, 30);
-
-        WalksAndNotesTest camp = new WalksAndNotesTest();
-        begin = camp.laySigns(shift, arcs);
-        camp.net.sign(camp.to[last], 2, 0, 60, 1 << camp.comes[last], false);
-        dueWalk("thirty paths and camp", camp.net, begin, CAMP, camp.to[last], 30, 30);
-
-        int turning = shiftFor(29);
-        WalksAndNotesTest round = new WalksAndNotesTest();
-        int before = round.arcsFor(turning, 29);
-        begin = round.laySigns(turning, before);
-        int end = round.tour[(turning + before - 1) % 24];
-        int again = -1;
-        for (int n = 0; n < before; n++) {
-            int arc = round.tour[(turning + n) % 24];
-            again = round.from[arc] == round.to[end] ? arc : again;
-        }
-        round.net.sign(round.to[end], 0, round.leaves[again], 60, 1 << round.comes[end], false);
-        int over = round.net.walked(begin, 30);
-        dueWalk("around by the thirtieth", round.net, begin, AROUND, over, 30, 30);
     }
 
     private static void notesTaken() {
