@@ -135,6 +135,25 @@ public final class EdgesOfWalksTest {
         dueWalk("all are barred", x, 3, LOSS, 0, 1, 9);
     }
 
+    /** By THIS WAY, by NOT THIS WAY: stones from 1 on and paint neither lead nor bar. */
+    static void otherKindsNeitherLeadNorBar() {
+        for (int kind = STONES; kind <= PAINT; kind++) {
+            for (int v = kind == STONES ? 1 : 0; v <= (kind == STONES ? 9 : 5); v++) {
+                TwigsAndStones x = Lands.star();
+                x.sign(0, kind, v, 9, 7, true);
+                dueWalk("at a loss still", x, 0, LOSS, 0, 0, 0);
+                x.sign(0, NOT_THIS_WAY, 1, 9, 0, true);
+                dueWalk("at a loss, as two are left", x, 0, LOSS, 0, 0, 0);
+                x.sign(0, NOT_THIS_WAY, 2, 9, 0, true);
+                Due.is("by the only one that is not barred", x.walked(0, 1), 1);
+                TwigsAndStones y = new TwigsAndStones();
+                y.path(0, 1, 1);
+                y.sign(0, kind, v, 9, 0, true);
+                dueWalk("by the only path", y, 0, END, 1, 1, 1);
+            }
+        }
+    }
+
     /** Two signs that bar one path bar it once. */
     static void pathBarredTwiceIsBarredOnce() {
         TwigsAndStones x = Lands.star();
