@@ -406,4 +406,27 @@ public final class EdgesOfSignsTest {
             Due.is("with life 0", x.seen(0, -1) + x.seen(0, 2), 0);
         }
     }
+
+    /** "by some of the PATHS there .., or begins there": each of sixteen paths is another one than to begin. */
+    static void startIsNoneOfSixteenPaths() {
+        for (int path = 0; path <= 15; path++) {
+            for (int place = 0; place <= 9; place++) {
+                if (Lands.sixteenPaths().seen(place, path) != UNKNOWN) {
+                    dueSeenByOneAlone(place, path);
+                }
+            }
+        }
+    }
+
+    private static void dueSeenByOneAlone(int place, int path) {
+        TwigsAndStones x = Lands.sixteenPaths();
+        x.sign(place, PAINT, 1, 9, 1 << path, false);
+        x.sign(place, PAINT, 1, 9, 0, true);
+        for (int came = -1; came <= 15; came++) {
+            if (x.seen(place, came) != UNKNOWN) {
+                int due = came == path ? 1 : came == -1 ? 2 : 0;
+                Due.is("at " + place + " for path " + path + ", come by " + came, x.seen(place, came), due);
+            }
+        }
+    }
 }

@@ -561,4 +561,55 @@ public final class EdgesOfWalksTest {
             }
         }
     }
+
+    /** "if there is one alone, its PLACES": by each of sixteen paths, either way, at each note. */
+    static void onlyWayMayGoByAnyPathAtAnyNote() {
+        for (int path = 0; path <= 15; path++) {
+            for (int turn = -1; turn <= 1; turn += 2) {
+                for (int step = 1; step <= 7; step++) {
+                    int[] way = wayInTheRing(path, turn, step);
+                    TwigsAndStones x = ringWithSignsOnAWay(way);
+                    String told = "by path " + path + ", turn " + turn + ", at note " + step;
+                    Due.is(told, x.ways(way[0]), 1);
+                    for (int i = 0; i <= 7; i++) {
+                        Due.is(told + ", place " + i, x.only(way[0], i), way[i]);
+                    }
+                    Due.is(told + ", behind it", x.only(way[0], 8), NONE);
+                }
+            }
+        }
+    }
+
+    /** Ten places in a ring by the paths 0 .. 9, six shorter ways past one place by 10 .. 15; signs for one way alone. */
+    private static TwigsAndStones ringWithSignsOnAWay(int[] way) {
+        TwigsAndStones x = new TwigsAndStones();
+        for (int path = 0; path <= 15; path++) {
+            x.path(path % 10, (path % 10 + (path < 10 ? 1 : 2)) % 10, 1);
+        }
+        x.sign(way[0], STONES, 1, 60, 0, true);
+        x.note(1 << STONES);
+        for (int i = 1; i < way.length; i++) {
+            x.sign(way[i], PAINT, 0, 60, 1 << pathInTheRing(way[i - 1], way[i]), false);
+            x.note(1 << PAINT);
+        }
+        return x;
+    }
+
+    private static int pathInTheRing(int a, int b) {
+        int up = Math.floorMod(b - a, 10);
+        int first = up <= 2 ? a : b;
+        return up == 1 || up == 9 ? first : 10 + first;
+    }
+
+    /** Eight places of the ring, one after the other up (turn 1) or down (-1), with a path as the step of that number. */
+    private static int[] wayInTheRing(int path, int turn, int step) {
+        int past = path < 10 ? 1 : 2;
+        int from = path % 10 + (turn == 1 ? 0 : past);
+        int[] way = new int[8];
+        for (int i = 0; i < 8; i++) {
+            int steps = i < step ? i - step + 1 : i - step + past;
+            way[i] = Math.floorMod(from + turn * steps, 10);
+        }
+        return way;
+    }
 }
